@@ -115,12 +115,12 @@ public final class MagpieAccounts {
     // Every number up to 40 is a sum of these, no two being neighbours here, in just one way.
     private static final int[] GAME_PARTS = {34, 21, 13, 8, 5, 3, 2, 1};
 
-    private final County county = new County();
+    private final Laws laws = new Laws();
+    private final County county = laws.county;
     private final County kept = new County();
     private final Moment spare = new Moment();
-    private final Tape tape = new Tape();
-    private final Reader reader = new Reader(tape);
-    private final Laws laws = new Laws(county);
+    private final Reader reader = new Reader();
+    private final Tape tape = reader.tape;
     private final Spread spread = new Spread();
     private final int[] chances = new int[MAX_BIRDS];
     private final int[] numeral = new int[MAX_DIGITS + 1];
@@ -1002,7 +1002,7 @@ public final class MagpieAccounts {
         }
 
         boolean hasText(int text) {
-            return within(text, 0, textsRead - 1);
+            return text >= 0 && text < textsRead;
         }
 
         Text textAt(int text) {
@@ -1637,7 +1637,7 @@ public final class MagpieAccounts {
 
     /** Reads the tape as a TEXT. At a FAULT it goes to the tape's end, where no loop goes on and nothing is open. */
     private static final class Reader {
-        private final Tape tape;
+        final Tape tape = new Tape();
         private int at;
         private boolean inChance;
         int fault;
@@ -1653,10 +1653,6 @@ public final class MagpieAccounts {
         final int[] firsts = new int[MAX_CLAUSES];
         final int[] seconds = new int[MAX_CLAUSES];
         int clauses;
-
-        Reader(Tape tape) {
-            this.tape = tape;
-        }
 
         // null: it has a FAULT.
         Text readTape() {
@@ -1675,7 +1671,7 @@ public final class MagpieAccounts {
         }
 
         private int kind() {
-            return within(at, 0, tape.tokens - 1) ? tape.kinds[at] : TAPE_END;
+            return at >= 0 && at < tape.tokens ? tape.kinds[at] : TAPE_END;
         }
 
         private void fail(int what) {
@@ -1908,14 +1904,10 @@ public final class MagpieAccounts {
 
     /** What the laws of a TEXT say of the county as it is. An instruction bears the number of its TOKEN. */
     private static final class Laws {
-        private final County county;
+        final County county = new County();
         private final int[] pile = new int[MAX_TAPE + 1];
         private int bird;
         private int count;
-
-        Laws(County county) {
-            this.county = county;
-        }
 
         int chanceOf(int asked) {
             if (!county.hasBird(asked)) {

@@ -31,7 +31,8 @@ public final class FuzzTest {
         int wrong = 0;
         for (int run = 0; run < RUNS && wrong < 5; run++) {
             FuzzTest test = new FuzzTest(run);
-            if (!test.run(face, run % 4)) {
+            boolean same = run % 5 == 4 ? test.runTexts() : test.run(face, run % 5);
+            if (!same) {
                 wrong++;
             }
         }
@@ -63,6 +64,29 @@ public final class FuzzTest {
                     invoke(m.getName(), draw(m));
                 }
             }
+        }
+        return same;
+    }
+
+    // An object takes just four TEXTS, so each is read, asked and then gone back from.
+    private boolean runTexts() throws ReflectiveOperationException {
+        prepare(3);
+        invoke("years", random.nextInt(10000), 40);
+        invoke("rhyme", random.nextInt(9), random.nextInt(10));
+        invoke("end", 0);
+        for (int i = 0; i < 40 && same; i++) {
+            invoke("image");
+            String text = random.nextInt(4) == 0 ? drawDeep() : drawText(random.nextInt(4));
+            feedText(text);
+            int read = model.about(1) - 1;
+            invoke("by", read);
+            for (int count = 0; count < 9; count++) invoke("brings", count);
+            for (int bird = 0; bird < 8; bird++) invoke("of", bird, 5);
+            invoke("foretold", 3, 0);
+            invoke("best", random.nextInt(5), false);
+            invoke("played", read);
+            invoke("is", 2);
+            if (random.nextInt(4) > 0) invoke("back");
         }
         return same;
     }
@@ -130,6 +154,9 @@ public final class FuzzTest {
             case "day", "foretold" -> name.equals("foretold") && i == 1 ? random.nextInt(3) : random.nextInt(62);
             case "test", "sure", "bound" -> random.nextInt(14) - 1;
             case "bird" -> random.nextInt(14) - 1;
+            case "beats" -> random.nextInt(5) - random.nextInt(2);
+            case "best", "comes", "likely" -> random.nextInt(random.nextBoolean() ? 4 : 10);
+            case "book" -> i == 0 ? random.nextInt(27) - 1 : random.nextInt(5);
             default -> random.nextInt(12) - 2;
         };
     }
@@ -206,6 +233,23 @@ public final class FuzzTest {
             else out.insert(at, ' ' + piece() + ' ');
         }
         return out.toString();
+    }
+
+    // About as many open as can be.
+    private String drawDeep() {
+        StringBuilder out = new StringBuilder(random.nextBoolean() ? "chance " : "brings ");
+        StringBuilder shut = new StringBuilder();
+        for (int i = 6 + random.nextInt(4); i > 0; i--) {
+            switch (random.nextInt(6)) {
+                case 0 -> { out.append("("); shut.insert(0, ")"); }
+                case 1 -> out.append("-");
+                case 2 -> out.append("rhyme ");
+                case 3 -> out.append("came ");
+                case 4 -> { out.append("if not 1="); shut.insert(0, " then 2 else 3 end"); }
+                default -> { out.append("if "); shut.insert(0, ">gone and not day#2 then last else 7 end"); }
+            }
+        }
+        return out.append(number(8)).append(shut).append(";").toString();
     }
 
     private String piece() {
