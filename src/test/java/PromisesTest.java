@@ -606,6 +606,10 @@ public final class PromisesTest {
         passTo(x, 120);
         due(-9999, x.is(2));
         due(-99, x.book(24, 3));
+        x = new MagpieAccounts();
+        x.bird(1, 0, 10);
+        passTo(x, 9999);
+        due(9999, x.of(0, 4));
     }
 
     private static void playing() {
@@ -1493,6 +1497,7 @@ public final class PromisesTest {
         x.told(5, -99);
         due(2, x.back());
         due(12, x.habits());
+        due(4, x.habit(2));
         x.told(NONE, 0);
         x.told(5, 3);
         x.image();
