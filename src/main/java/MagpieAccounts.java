@@ -835,7 +835,7 @@ public final class MagpieAccounts {
         return length;
     }
 
-    // The lowest digit stands first in numeral; the answer is the new length, without zeros ahead.
+    // The lowest digit stands first in numeral; the answer is the new length. From 1 on no zeros come ahead.
     private int multiply(int factor, int length) {
         int carry = 0;
         int places = 0;
@@ -844,9 +844,6 @@ public final class MagpieAccounts {
             numeral[places] = sum % 10;
             carry = sum / 10;
             places++;
-        }
-        while (places > 1 && numeral[places - 1] == 0) {
-            places--;
         }
         return places;
     }
@@ -1437,7 +1434,7 @@ public final class MagpieAccounts {
 
         private int weakest(int set) {
             int weakest = 0;
-            int fewest = Integer.MAX_VALUE;
+            int fewest = PARISHES * MAX_VOTES;
             for (int cause = 0; cause < CAUSES; cause++) {
                 if (isIn(set, cause)) {
                     int first = firstVotes(cause, set);
@@ -1558,7 +1555,7 @@ public final class MagpieAccounts {
                 if (bytes[at] == ' ' || bytes[at] == '\n') {
                     at++;
                 } else {
-                    at += scanToken(at);
+                    at += Math.max(1, scanToken(at));
                 }
             }
             put(TAPE_END, length, 0);
@@ -1573,7 +1570,7 @@ public final class MagpieAccounts {
             }
         }
 
-        // How many bytes the TOKEN has: at least one.
+        // How many bytes the TOKEN has.
         private int scanToken(int at) {
             if (isLetter(bytes[at])) {
                 return scanWord(at);

@@ -1,75 +1,7 @@
 /** Each of the 61 promises by hand: ordinary inputs, the edges that the document names, and wrong inputs. */
-public final class PromisesTest {
-    private static final int NONE = MagpieAccounts.NONE;
-    private static final int LEAST = Integer.MIN_VALUE;
-    private static final int MOST = Integer.MAX_VALUE;
-    private static int wrong = 0;
-    private static int promise = 0;
-    private static int row = 0;
-
-    private static void due(long want, long got) {
-        row++;
-        if (want != got) {
-            wrong++;
-            System.out.println("promise " + promise + ", row " + row + ": answered " + got + ", due is " + want);
-        }
-    }
-
-    private static void due(boolean want, boolean got) {
-        due(want ? 1 : 0, got ? 1 : 0);
-    }
-
+public final class PromisesTest extends Rows {
     private static MagpieAccounts promise(int number) {
-        promise = number;
-        row = 0;
-        return new MagpieAccounts();
-    }
-
-    private static void feedAll(MagpieAccounts x, String text) {
-        x.end(0);
-        for (int at = 0; at < text.length(); at += 20) {
-            int[] w = new int[5];
-            for (int i = 0; i < 20; i++) {
-                int sign = at + i < text.length() ? text.charAt(at + i) & 255 : 0;
-                w[i / 4] = w[i / 4] << 8 | sign;
-            }
-            x.feed(w[0], w[1], w[2], w[3], w[4]);
-        }
-        x.end(text.length());
-    }
-
-    private static int tell(MagpieAccounts x, String text) {
-        feedAll(x, text);
-        return x.text();
-    }
-
-    private static MagpieAccounts ruled(String text) {
-        MagpieAccounts x = new MagpieAccounts();
-        x.by(tell(x, text));
-        return x;
-    }
-
-    // brings of COUNT 3 by this SUM.
-    private static void brings(int want, String sum) {
-        due(want, ruled("brings " + sum + ";").brings(3));
-    }
-
-    private static void faulty(int fault, int place, String text) {
-        MagpieAccounts x = new MagpieAccounts();
-        due(fault == 0 ? 0 : NONE, tell(x, text));
-        due(fault, x.fault(0));
-        due(place, x.fault(1));
-    }
-
-    private static String times(int n, String text) {
-        StringBuilder out = new StringBuilder();
-        for (int i = 0; i < n; i++) out.append(text);
-        return out.toString();
-    }
-
-    // To the DAY, by as many calls as it needs.
-    private static void passTo(MagpieAccounts x, int day) {
-        while (x.is(0) < day) x.day(Math.min(60, day - x.is(0)));
+        return begin("promise " + number);
     }
 
     public static void main(String[] args) {
@@ -108,8 +40,7 @@ public final class PromisesTest {
         eldestAndDue();
         images();
         about();
-        System.out.println(wrong == 0 ? "all promises hold" : wrong + " answers are not as due");
-        if (wrong != 0) System.exit(1);
+        finish("all promises hold");
     }
 
     private static void newObject() {
@@ -570,7 +501,7 @@ public final class PromisesTest {
 
     private static void lastDays() {
         MagpieAccounts x = ruled("brings 99;");
-        passTo(x, 9960);
+        passDays(x, 9960);
         due(9999, x.is(2));
         due(99, x.book(24, 3));
         due(NONE, x.day(40));
@@ -603,12 +534,12 @@ public final class PromisesTest {
         due(1, x.comes(1));
         promise(12);
         x = ruled("brings -99;");
-        passTo(x, 120);
+        passDays(x, 120);
         due(-9999, x.is(2));
         due(-99, x.book(24, 3));
         x = new MagpieAccounts();
         x.bird(1, 0, 10);
-        passTo(x, 9999);
+        passDays(x, 9999);
         due(9999, x.of(0, 4));
     }
 
@@ -1008,7 +939,7 @@ public final class PromisesTest {
         due(10, x.gather());
         x.call(0);
         due(10, x.gather());
-        passTo(x, 10);
+        passDays(x, 9);
         due(10, x.gather());
         x.day(1);
         due(22, x.gather());
