@@ -801,6 +801,7 @@ public final class EdgesOfPromisesTest extends Edges {
         due(NONE, x.bound(13, 0));
         due(NONE, x.bound(12, -1));
         due(NONE, x.bound(12, 11));
+        for (int n = 1; n <= 12; n++) due(NONE, x.bound(n, n % 2 == 0 ? -1 : 11));
         for (int far : FAR) {
             due(NONE, x.bound(far, 0));
             due(NONE, x.bound(1, far));
@@ -815,6 +816,10 @@ public final class EdgesOfPromisesTest extends Edges {
         due(-1, x.sure(13, 0, 5, false));
         due(-1, x.sure(5, -1, 5, true));
         due(-1, x.sure(5, 11, 5, true));
+        for (int n = 1; n <= 12; n++) {
+            due(-1, x.sure(n, -1, 5, false));
+            due(-1, x.sure(n, 11, 5, false));
+        }
         due(-1, x.sure(5, 5, -1, false));
         due(-1, x.sure(5, 5, 11, false));
         for (int far : FAR) {

@@ -1,4 +1,6 @@
 import java.io.IOException;
+import java.util.List;
+import java.util.StringJoiner;
 
 /** A test for each sentence of the terms and of the parts I to V that names a boundary, with that sentence as its name. */
 public final class EdgesOfTermsTest extends Edges {
@@ -14,6 +16,7 @@ public final class EdgesOfTermsTest extends Edges {
         sums();
         names();
         faultsByPlace();
+        whereTokensStand();
         faultNumbers();
         faultsOpen();
         faultsOfClauses();
@@ -308,6 +311,15 @@ public final class EdgesOfTermsTest extends Edges {
         due(15, x.is(2));
         due(NONE, x.undo());
 
+        x = begin("the row of STEPS goes round twice");
+        x.day(60);
+        x.day(35);
+        for (int day = 94; day >= 65; day--) {
+            x.undo();
+            due(day, x.is(0));
+        }
+        due(NONE, x.undo());
+
         x = edge(0, "STEPS: THINNED, CALLED BACK, GRANTED, a DAY (each), YEARS (see V)");
         x.bird(1, 0, 5);
         x.rhyme(0, 3);
@@ -492,6 +504,10 @@ public final class EdgesOfTermsTest extends Edges {
         brings(1, "(999*1000+999+1)/1000/1000");
         brings(0, "(999*1000+999)/1000/1000");
         brings(-1, "-(9999*9999)/1000/1000");
+        brings(0, "1001*1000-1000*1000");
+        brings(0, "-1001*1000+1000*1000");
+        brings(-1, "1000*1000--1-1-1000*1000");
+        brings(1, "-1000*1000+-1+1+1000*1000");
 
         edge(0, "or and and look at both sides always, of if just the SUM that is chosen is asked");
         brings(1, "if 1=1 or 1/0=1 then 1 else 2 end");
@@ -614,6 +630,62 @@ public final class EdgesOfTermsTest extends Edges {
         faulty(1, 12, "chance rhyme;");
         faulty(1, 7, "chance chance;");
         faulty(1, 7, "chance bird;");
+    }
+
+    private static final String[] ALL_TOKENS = {"chance", "brings", "bird", "odds", "rhyme", "by", "thin", "call", "grant", "day",
+        "fund", "last", "gone", "number", "period", "count", "thing", "came", "if", "then", "else", "end", "or", "and", "not",
+        "<=", ">=", "<", ">", "=", "#", "+", "-", "*", "/", "(", ")", ";", "5", "word", "!", "\u00ff"};
+
+    // Behind these bytes just these TOKENS can stand, and these NAMES are of the other law: each other one is a FAULT 1.
+    private static void stand(String ahead, String those, String strange) {
+        int place = ahead.length() + 1;
+        for (String token : ALL_TOKENS) {
+            MagpieAccounts x = new MagpieAccounts();
+            tell(x, ahead + " " + token);
+            if (has(those, token)) {
+                due(true, x.fault(0) == 0 || x.fault(1) == place + token.length());
+            } else {
+                due(has(strange, token) ? 5 : 1, x.fault(0));
+                due(place, x.fault(1));
+            }
+        }
+    }
+
+    private static boolean has(String tokens, String token) {
+        return List.of(tokens.split(" ")).contains(token);
+    }
+
+    private static void whereTokensStand() {
+        begin("where TOKENS can stand");
+        String verbs = "chance brings bird rhyme thin call grant day";
+        stand("", verbs, "");
+        stand("day 1;", verbs, "");
+        for (String verb : new String[] {"bird", "rhyme", "thin", "call", "grant", "day", "bird 5 odds", "rhyme 5 by"}) stand(verb, "5", "");
+        stand("bird 5", "odds", "");
+        stand("rhyme 5", "by", "");
+        for (String row : new String[] {"thin 5", "call 5", "grant 5", "day 5", "bird 5 odds 5", "rhyme 5 by 5"}) stand(row, ";", "");
+        String one = "day fund last gone 5 ( - rhyme came if";
+        for (String sum : new String[] {"", "1+", "1-", "1*", "1/", "(", "-", "rhyme", "came", "if 1=1 then", "if 1=1 then 1 else"}) {
+            stand("chance " + sum, one + " number odds period", "count thing");
+            stand("brings " + sum, one + " count thing", "number odds period");
+        }
+        for (String ask : new String[] {"if", "if not", "if 1=1 or", "if 1=1 and", "if not not"}) {
+            stand("chance " + ask, one + " not number odds period", "count thing");
+            stand("brings " + ask, one + " not count thing", "number odds period");
+        }
+        for (String sign : new String[] {"<", "<=", ">", ">=", "=", "#"}) {
+            stand("brings if 1" + sign, one + " count thing", "number odds period");
+        }
+        stand("brings 1", "+ - * / ;", "");
+        stand("brings (1", "+ - * / )", "");
+        stand("brings rhyme 1", "+ - * / ;", "");
+        stand("brings if 1", "+ - * / < <= > >= = #", "");
+        stand("brings if (1", "+ - * / )", "");
+        stand("brings if 1=1", "+ - * / or and then", "");
+        stand("brings if not 1=1", "+ - * / or and then", "");
+        stand("brings if 1=1 then 1", "+ - * / else", "");
+        stand("brings if 1=1 then 1 else 1", "+ - * / end", "");
+        stand("brings if 1=1 then 1 else 1 end", "+ - * / ;", "");
     }
 
     private static void faultNumbers() {
@@ -979,6 +1051,12 @@ public final class EdgesOfTermsTest extends Edges {
         due(NONE, x.habit(2));
         x.bird(1, 0, 5);
         due(0, x.whom());
+        // A PERIOD of 13 would fit.
+        x.morning(NONE, true);
+        x.morning(0, true);
+        for (int day = 7; day <= 12; day++) x.morning(day, false);
+        due(0, x.habits());
+        for (int what = 0; what < 3; what++) due(NONE, x.habit(what));
 
         x = edge(0, "WHOM: BIRDS (bits) whose PERIOD and PHASE fit");
         for (int i = 0; i < 8; i++) x.bird(8, i, 0);
@@ -1044,6 +1122,11 @@ public final class EdgesOfTermsTest extends Edges {
         x.thin(1);
         due(0, x.gather());
         x.thin(0);
+        due(NONE, x.gather());
+        x = begin("GATHERING never, by the first two");
+        x.bird(2, 0, 1);
+        x.bird(2, 1, 1);
+        x.bird(3, 0, 1);
         due(NONE, x.gather());
         x = begin("GATHERING never, by three");
         x.bird(4, 1, 1);
@@ -1114,6 +1197,16 @@ public final class EdgesOfTermsTest extends Edges {
         due(7, x.after(0, 9));
         due(8, x.after(0, 1000000));
         due(7, x.after(0, 999999));
+        // 1, 2 is one ring, 6, 7, 8 another: 5 comes to that.
+        x = begin("AFTER with two rings");
+        x.follows(1, 2);
+        x.follows(2, 1);
+        for (int count = 5; count < 8; count++) x.follows(count, count + 1);
+        x.follows(8, 6);
+        due(6, x.after(5, 1000000));
+        due(8, x.after(5, 999999));
+        due(1, x.after(1, 1000000));
+        due(7, x.after(7, 999999));
 
         x = edge(0, "AGREEING: COUNTS that follow themselves");
         due(511, x.agree());
@@ -1258,6 +1351,11 @@ public final class EdgesOfTermsTest extends Edges {
         due(1, x.seats(0, 4, true));
         due(1, x.seats(1, 4, true));
         due(2, x.seats(2, 4, true));
+        x = begin("the last PARISH has the greatest rest");
+        x.votes(0, 12);
+        x.votes(4, 18);
+        due(0, x.seats(0, 1, true));
+        due(1, x.seats(4, 1, true));
         x = begin("four are left over");
         x.votes(0, 999);
         for (int parish = 1; parish < 5; parish++) x.votes(parish, 998);
@@ -1274,9 +1372,9 @@ public final class EdgesOfTermsTest extends Edges {
         x.votes(1, 24);
         x.votes(2, 23);
         due(3, x.unlike(2));
-        x.votes(2, 0);
-        x.votes(4, 23);
-        due(3, x.unlike(2));
+        x.votes(1, 0);
+        x.votes(4, 24);
+        due(17, x.unlike(2));
     }
 
     private static void causes() {
@@ -1303,6 +1401,10 @@ public final class EdgesOfTermsTest extends Edges {
         x.votes(2, 1);
         due(true, x.beats(0, 1));
         due(false, x.beats(1, 0));
+        x.votes(4, 2);
+        x.ranks(4, 23);
+        due(false, x.beats(0, 1));
+        due(true, x.beats(1, 0));
 
         x = edge(0, "THE WINNER BEATS all others; none (without VOTES, too)");
         due(NONE, x.winner());
@@ -1350,6 +1452,11 @@ public final class EdgesOfTermsTest extends Edges {
         x.ranks(1, 23);
         due(0, x.runoff());
         x.ranks(2, 23);
+        due(3, x.runoff());
+        x = begin("the last PARISH tells");
+        x.votes(0, 4);
+        x.votes(4, 5);
+        x.ranks(4, 23);
         due(3, x.runoff());
         x = begin("the last two are alike");
         x.votes(0, 4);
@@ -1618,6 +1725,34 @@ public final class EdgesOfTermsTest extends Edges {
         due(5, x.fault(0));
         due(7, x.fault(1));
 
+        // Every row is full, and each place of it is another one then.
+        x = begin("an image of all that is full");
+        tell(x, "brings count;");
+        fill(x, 0);
+        x.image();
+        then = full(x);
+        due(1, x.habits());
+        due(1, x.whose());
+        x.morning(NONE, true);
+        x.told(NONE, 0);
+        fill(x, 1);
+        due(0, x.whose());
+        due(false, then.equals(full(x)));
+        x.back();
+        same(then, full(x));
+
+        // The STEPS of the image, too, each of the thirty.
+        x = begin("the STEPS of an image");
+        x.day(40);
+        x.image();
+        x.day(60);
+        x.back();
+        for (int day = 39; day >= 10; day--) {
+            x.undo();
+            due(day, x.is(0));
+        }
+        due(NONE, x.undo());
+
         x = edge(0, "BACK: all is so again");
         stir(x);
         then = state(x);
@@ -1627,6 +1762,35 @@ public final class EdgesOfTermsTest extends Edges {
             x.back();
             same(then, state(x));
         }
+    }
+
+    private static void fill(MagpieAccounts x, int more) {
+        for (int i = 0; i < 8; i++) x.bird(1, 0, 10);
+        for (int count = 0; count < 9; count++) {
+            x.rhyme(count, count / 2 + more);
+            x.follows(count, (count * 2 + more) % 9);
+        }
+        for (int parish = 0; parish < 5; parish++) {
+            x.votes(parish, 100 + parish + more * 50);
+            x.ranks(parish, parish * 4 + more);
+        }
+        for (int i = 0; i < 12; i++) x.morning(i, i == 11 - more * 11);
+        for (int i = 0; i < 8; i++) x.told(i + more, i + more * 2);
+        x.day(40 + more);
+        for (int bird = 0; bird < 8; bird++) {
+            if (bird % 2 == more) x.thin(bird);
+        }
+    }
+
+    // What fill changes, each place of each row; what can't be asked by itself is asked by what it does.
+    private static String full(MagpieAccounts x) {
+        StringJoiner out = new StringJoiner(" ");
+        for (int bird = 0; bird < 8; bird++) out.add("came=" + x.of(bird, 4)).add("gone=" + x.of(bird, 3));
+        for (int count = 0; count < 9; count++) out.add("thing=" + x.things(count)).add("next=" + x.after(count, 1));
+        for (int parish = 0; parish < 5; parish++) out.add("seats=" + x.seats(parish, 29, false));
+        for (int cause = 0; cause < 4; cause++) out.add("points=" + x.points(cause));
+        out.add("pages=" + x.book(0, 0) + ".." + x.book(24, 0)).add("fits=" + x.habits()).add("whose=" + x.whose());
+        return out.add("fund=" + x.is(2)).add("day=" + x.is(0)).toString();
     }
 
     private static void constants() {

@@ -1,4 +1,6 @@
 import java.io.IOException;
+import java.io.PrintWriter;
+import java.io.StringWriter;
 import java.lang.reflect.Constructor;
 import java.lang.reflect.Field;
 import java.lang.reflect.Member;
@@ -9,10 +11,13 @@ import java.nio.file.Path;
 import java.util.ArrayList;
 import java.util.Arrays;
 import java.util.List;
+import java.util.Map;
 import java.util.Set;
+import java.util.TreeMap;
 import java.util.TreeSet;
 import java.util.regex.Matcher;
 import java.util.regex.Pattern;
+import java.util.spi.ToolProvider;
 
 /** The rules of LANGUAGE.md and the document's face, as far as a machine can look at them. */
 public final class LanguageTest {
@@ -38,6 +43,7 @@ public final class LanguageTest {
         lengths(bare);
         face();
         members();
+        depths();
         System.out.println(wrong == 0 ? "the rules are kept" : wrong + " rules are broken");
         if (wrong != 0) System.exit(1);
     }
@@ -77,6 +83,8 @@ public final class LanguageTest {
         while (m.find()) {
             if (!LIBRARY.contains(m.group(1))) fault("rule 4: " + m.group(1));
         }
+        m = Pattern.compile("\\b(?:Integer|Long|Math|Arrays|System)\\.\\w+\\b(?!\\s*\\()").matcher(bare);
+        while (m.find()) fault("rule 4: " + m.group());
     }
 
     // A method ends at the brace of its own depth.
@@ -146,5 +154,63 @@ public final class LanguageTest {
                 if (open.contains(method.getName()) && !Modifier.isPublic(method.getModifiers())) fault("rule 1: " + method);
             }
         }
+    }
+
+    // Rule 11: which method calls which, as the compiled classes say. Methods that call one another in a ring count once.
+    private static void depths() {
+        Map<String, Set<String>> calls = calls();
+        if (calls.size() < 100) fault("the calls of " + calls.size() + " methods were found");
+        Map<String, Set<String>> reached = new TreeMap<>();
+        for (String each : calls.keySet()) reached.put(each, reachedFrom(each, calls));
+        for (String each : calls.keySet()) {
+            int deep = depth(each, calls, reached, Set.of());
+            if (deep > 8) fault("rule 11: " + each + " goes " + deep + " deep");
+        }
+    }
+
+    private static Map<String, Set<String>> calls() {
+        Map<String, Set<String>> calls = new TreeMap<>();
+        List<Class<?>> all = new ArrayList<>(List.of(MagpieAccounts.class.getDeclaredClasses()));
+        all.add(MagpieAccounts.class);
+        String at = MagpieAccounts.class.getProtectionDomain().getCodeSource().getLocation().getPath();
+        for (Class<?> each : all) {
+            StringWriter out = new StringWriter();
+            ToolProvider.findFirst("javap").orElseThrow().run(new PrintWriter(out), new PrintWriter(System.err), "-p", "-c", "-cp", at, each.getName());
+            String from = "";
+            for (String line : out.toString().split("\n")) {
+                Matcher head = Pattern.compile("^  (?! )[^(]*?([\\w$]+)\\(.*\\);$").matcher(line);
+                Matcher call = Pattern.compile("// Method (?:(MagpieAccounts[\\w$]*)\\.)?\"?([\\w<>]+)\"?:").matcher(line);
+                if (head.find()) {
+                    from = each.getName() + "." + (head.group(1).equals(each.getName()) ? "<init>" : head.group(1));
+                    calls.putIfAbsent(from, new TreeSet<>());
+                } else if (call.find()) {
+                    calls.get(from).add((call.group(1) == null ? each.getName() : call.group(1)) + "." + call.group(2));
+                }
+            }
+        }
+        return calls;
+    }
+
+    private static Set<String> reachedFrom(String from, Map<String, Set<String>> calls) {
+        Set<String> seen = new TreeSet<>();
+        List<String> open = new ArrayList<>(calls.get(from));
+        while (!open.isEmpty()) {
+            String next = open.remove(open.size() - 1);
+            if (calls.containsKey(next) && seen.add(next)) open.addAll(calls.get(next));
+        }
+        return seen;
+    }
+
+    private static int depth(String method, Map<String, Set<String>> calls, Map<String, Set<String>> reached, Set<String> around) {
+        Set<String> ring = new TreeSet<>(around);
+        ring.add(method);
+        int deepest = 0;
+        for (String next : calls.get(method)) {
+            if (!calls.containsKey(next) || ring.contains(next)) continue;
+            boolean same = reached.get(next).contains(method);
+            int deep = depth(next, calls, reached, same ? ring : Set.of());
+            deepest = Math.max(deepest, same ? deep - 1 : deep);
+        }
+        return deepest + 1;
     }
 }
